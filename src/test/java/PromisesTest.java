@@ -16,6 +16,7 @@ public final class PromisesTest {
         requestsThroughAllLists();
         requestsWithSmallTarget();
         targetIsAtMostC();
+        restIsLeftOff();
         onePage();
         target();
         whichList();
@@ -206,6 +207,18 @@ public final class PromisesTest {
         readAll(cache, 1, 1, 2, 2, 3, 4, 3, 5, 6, 4);
         readDue(cache, 1, "6 | 1 4 | 5 | 3 2 : 2");
         readDue(cache, 5, "6 | 5 1 | - | 4 3 2 : 3");
+    }
+
+    /** C is 5: 3 / 2 moves TARGET by 1, up and down. */
+    private static void restIsLeftOff() {
+        ArcCache up = new ArcCache(4);
+        readAll(up, 12, 2, 1, 12, 1, 10, 2, 11, 8, 3, 9, 10, 8, 7);
+        readDue(up, 5, "5 7 9 | 8 10 | 3 11 | 2 1 12 : 2");
+        readDue(up, 3, "5 7 9 | 3 8 | 11 | 10 2 1 12 : 3");
+        ArcCache down = new ArcCache(4);
+        readAll(down, 7, 8, 9, 6, 1, 6, 8, 2, 2, 9, 4, 4, 10, 12, 11, 6, 10);
+        readDue(down, 11, "- | 11 10 6 4 9 | 12 1 7 | 2 8 : 2");
+        readDue(down, 2, "- | 2 11 10 6 4 | 12 1 7 | 9 8 : 1");
     }
 
     private static void target() {
