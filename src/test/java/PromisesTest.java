@@ -1,4 +1,4 @@
-/** The promises one by one; what is due was worked out by hand from the document. */
+/** The promises one by one; what is due was worked out by hand from the document, but where a test says otherwise. */
 public final class PromisesTest {
     private static final Checks CHECKS = new Checks();
     private static final int[] NO_ADDRESSES = {-1, 64, 65, -64, 100, Integer.MIN_VALUE, Integer.MAX_VALUE};
@@ -209,7 +209,10 @@ public final class PromisesTest {
         readDue(cache, 5, "6 | 5 1 | - | 4 3 2 : 3");
     }
 
-    /** C is 5: 3 / 2 moves TARGET by 1, up and down. */
+    /**
+     * C is 5: 3 / 2 moves TARGET by 1, up and down. A search with a throwaway model found these runs and the states
+     * before their last calls; only the last step of each was worked out by hand.
+     */
     private static void restIsLeftOff() {
         ArcCache up = new ArcCache(4);
         readAll(up, 12, 2, 1, 12, 1, 10, 2, 11, 8, 3, 9, 10, 8, 7);
