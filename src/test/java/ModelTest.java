@@ -5,10 +5,13 @@ import java.util.Map;
 import java.util.Random;
 import java.util.TreeMap;
 
-/** Long runs of calls beside a model that follows the document's sentences word by word. */
+/** Runs of as many calls as the document allows, beside a model that follows its sentences word by word. */
 public final class ModelTest {
-    private static final int RUNS = 300;
+    private static final int RUNS = 4000;
     private static final int CALLS = 512;
+
+    /** One fault fails many runs alike; the first few tell enough. */
+    private static final int MOST_FAILED_RUNS = 5;
 
     /** Every branch of a request; a run of tests that never takes one of them proves too little. */
     private static final String[] BRANCHES = {
@@ -22,8 +25,9 @@ public final class ModelTest {
     public static void main(String[] args) {
         Checks checks = new Checks();
         Map<String, Integer> taken = new TreeMap<>();
-        for (int run = 0; run < RUNS; run++) {
-            oneRun(checks, run, taken);
+        int failedRuns = 0;
+        for (int run = 0; run < RUNS && failedRuns < MOST_FAILED_RUNS; run++) {
+            failedRuns += oneRun(checks, run, taken) ? 0 : 1;
         }
         for (String branch : BRANCHES) {
             checks.due("branch taken: " + branch, taken.containsKey(branch), true);
@@ -31,44 +35,61 @@ public final class ModelTest {
         checks.end();
     }
 
-    private static void oneRun(Checks checks, int run, Map<String, Integer> taken) {
+    /** Whether all answers were as due; what comes after a wrong one tells nothing more. */
+    private static boolean oneRun(Checks checks, int run, Map<String, Integer> taken) {
         Random random = new Random(run);
         int c = run < 72 ? run - 24 : random.nextInt();
         ArcCache cache = new ArcCache(c);
         Model model = new Model(c, taken);
         int spread = 1 + random.nextInt(64);
-        for (int call = 0; call < CALLS; call++) {
+        int requests = 20 + random.nextInt(70);
+        boolean asDue = true;
+        for (int call = 0; call < CALLS && asDue; call++) {
             String what = "run " + run + " ArcCache(" + c + ") call " + call;
-            oneCall(checks, what, cache, model, random, spread);
+            int address = pickAddress(model, random, spread);
+            asDue = random.nextInt(100) < requests
+                    ? oneChange(checks, what, cache, model, random, address)
+                    : oneLook(checks, what, cache, model, random, address);
         }
+        return asDue;
     }
 
-    private static void oneCall(
-            Checks checks, String what, ArcCache cache, Model model, Random random, int spread) {
-        int address = pickAddress(model, random, spread);
-        int word = random.nextInt();
-        switch (random.nextInt(40)) {
-            case 0 -> checks.due(what + " flush()", cache.flush(), model.flush());
-            case 1 -> {
-                if (random.nextInt(20) == 0) {
-                    cache.init();
-                    model.init();
-                }
-            }
-            case 2, 3, 4, 5, 6, 7, 8, 9, 10, 11, 12, 13 -> checks.due(
-                    what + " write(" + address + ", " + word + ")",
+    private static boolean oneChange(
+            Checks checks, String what, ArcCache cache, Model model, Random random, int address) {
+        int kind = random.nextInt(500);
+        if (kind == 0) {
+            cache.init();
+            model.init();
+            return true;
+        }
+        if (kind < 20) {
+            return checks.due(what + " flush()", cache.flush(), model.flush());
+        }
+        if (kind < 180) {
+            // Of few words, so that some are written that are there already.
+            int word = random.nextBoolean() ? random.nextInt(3) : random.nextInt();
+            return checks.due(what + " write(" + address + ", " + word + ")",
                     cache.write(address, word), model.write(address, word));
-            default -> checks.due(what + " read(" + address + ")", cache.read(address), model.read(address));
         }
-        checks.due(what + " state", Checks.state(cache), model.state());
-        checks.due(what + " counts",
-                List.of(cache.hits(), cache.misses(), cache.gone()),
-                List.of(model.hits, model.misses, model.gone));
-        for (int a = -1; a <= 64; a++) {
-            checks.due(what + " whichList(" + a + ")", cache.whichList(a), model.whichList(a));
-            checks.due(what + " store(" + a + ")", cache.store(a), model.store.getOrDefault(a, 0));
-            checks.due(what + " isDirty(" + a + ")", cache.isDirty(a), model.isDirty(a));
-        }
+        return checks.due(what + " read(" + address + ")", cache.read(address), model.read(address));
+    }
+
+    private static boolean oneLook(
+            Checks checks, String what, ArcCache cache, Model model, Random random, int address) {
+        int list = random.nextInt(20) == 0 ? random.nextInt(12) - 4 : 1 + random.nextInt(4);
+        int i = random.nextInt(Math.max(1, model.length(list)) + 2) - 1;
+        return switch (random.nextInt(12)) {
+            case 0 -> checks.due(what + " whichList(" + address + ")",
+                    cache.whichList(address), model.whichList(address));
+            case 1 -> checks.due(what + " store(" + address + ")", cache.store(address), model.store(address));
+            case 2 -> checks.due(what + " isDirty(" + address + ")", cache.isDirty(address), model.isDirty(address));
+            case 3 -> checks.due(what + " hits()", cache.hits(), model.hits);
+            case 4 -> checks.due(what + " misses()", cache.misses(), model.misses);
+            case 5 -> checks.due(what + " gone()", cache.gone(), model.gone);
+            case 6, 7 -> checks.due(what + " target()", cache.target(), model.target);
+            case 8 -> checks.due(what + " length(" + list + ")", cache.length(list), model.length(list));
+            default -> checks.due(what + " at(" + list + ", " + i + ")", cache.at(list, i), model.at(list, i));
+        };
     }
 
     /** Names of lists 3 and 4 are asked for often, since chance alone seldom moves TARGET far. */
@@ -162,13 +183,16 @@ public final class ModelTest {
             return pages.containsKey(a) && pages.get(a).dirty;
         }
 
-        String state() {
-            StringBuilder text = new StringBuilder();
-            for (int k = 1; k <= 4; k++) {
-                String all = lists.get(k).toString().replace(",", "").replace("[", "").replace("]", "");
-                text.append(k == 1 ? "" : " | ").append(all.isEmpty() ? "-" : all);
-            }
-            return text.append(" : ").append(target).toString();
+        int store(int a) {
+            return store.getOrDefault(a, 0);
+        }
+
+        int length(int k) {
+            return k >= 1 && k <= 4 ? size(k) : -1;
+        }
+
+        int at(int k, int i) {
+            return i >= 0 && i < length(k) ? lists.get(k).get(i) : -1;
         }
 
         private int size(int k) {
