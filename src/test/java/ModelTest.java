@@ -76,8 +76,9 @@ public final class ModelTest {
 
     private static boolean oneLook(
             Checks checks, String what, ArcCache cache, Model model, Random random, int address) {
-        int list = random.nextInt(20) == 0 ? random.nextInt(12) - 4 : 1 + random.nextInt(4);
-        int i = random.nextInt(Math.max(1, model.length(list)) + 2) - 1;
+        int list = random.nextInt(20) == 0 ? near(random, -4, 8) : 1 + random.nextInt(4);
+        int ends = Math.max(1, model.length(list)) + 2;
+        int i = random.nextInt(20) == 0 ? near(random, -4, 68) : random.nextInt(ends) - 1;
         return switch (random.nextInt(12)) {
             case 0 -> checks.due(what + " whichList(" + address + ")",
                     cache.whichList(address), model.whichList(address));
@@ -101,7 +102,12 @@ public final class ModelTest {
                 return names.get(random.nextInt(names.size()));
             }
         }
-        return kind == 9 ? random.nextInt(68) - 2 : random.nextInt(spread);
+        return kind == 9 ? near(random, -2, 66) : random.nextInt(spread);
+    }
+
+    /** Mostly from low to below high, else any number at all: no call may throw, whatever it is given. */
+    private static int near(Random random, int low, int high) {
+        return random.nextInt(4) == 0 ? random.nextInt() : low + random.nextInt(high - low);
     }
 
     private static final class Page {

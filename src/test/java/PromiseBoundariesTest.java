@@ -229,7 +229,7 @@ public final class PromiseBoundariesTest {
         due("whichList(63)", edges.whichList(63), 1);
     }
 
-    /** 0 and 63 never came; 2 and 3 were dropped of list 4. What was dropped of lists 1 and 3 follows. */
+    /** 0 and 63 never came; 2 and 3 were dropped of list 4. What was dropped of lists 1 and 3, and of all, follows. */
     private static void zeroInNone() {
         ArcCache cache = Runs.twoInEachList();
         for (int address : new int[] {0, 63, 2, 3}) {
@@ -241,6 +241,14 @@ public final class PromiseBoundariesTest {
         ArcCache name = Runs.oneInList3();
         name.read(4);
         due("whichList(2) dropped of list 3", name.whichList(2), 0);
+        // "- | 2 | 1 | - : 0", and 3 finds |3| at C: 1 is dropped, 2 goes of list 2, and list 3 is empty.
+        ArcCache onePage = Checks.cacheOf(1);
+        Checks.readAll(onePage, 2, 2, 1, 2, 3);
+        due("whichList(1), the last of list 3", onePage.whichList(1), 0);
+        cache.init();
+        for (int address = 0; address < 64; address++) {
+            due("whichList(" + address + ") after init()", cache.whichList(address), 0);
+        }
         ArcCache edges = edgesInUse();
         for (int address : NO_ADDRESSES) {
             due("whichList(" + address + ")", edges.whichList(address), 0);
